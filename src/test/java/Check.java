@@ -1,0 +1,61 @@
+import java.util.NoSuchElementException;
+
+/** Counts and prints the answers that are not the ones that are due. */
+final class Check {
+    static final int THROWS = -1000;
+
+    private final String name;
+    private int wrong;
+    private int calls;
+
+    Check(String name) {
+        this.name = name;
+    }
+
+    void due(String what, long got, long want) {
+        calls++;
+        if (got != want) {
+            wrong++;
+            System.out.println(name + ": " + what + " answered " + got + ", due is " + want);
+        }
+    }
+
+    void yes(String what, boolean got) {
+        due(what, got ? 1 : 0, 1);
+    }
+
+    void no(String what, boolean got) {
+        due(what, got ? 1 : 0, 0);
+    }
+
+    /** The bytes of the telegram sent latest, against those that are due. */
+    void sent(String what, HouseWires x, int... want) {
+        due(what + ", bytes", x.sent(HouseWires.NONE), want.length);
+        for (int k = 0; k < want.length; k++) {
+            due(what + ", byte " + k, sentOrThrows(x, k), want[k]);
+        }
+    }
+
+    static int sentOrThrows(HouseWires x, int k) {
+        try {
+            return x.sent(k);
+        } catch (NoSuchElementException e) {
+            return THROWS;
+        }
+    }
+
+    static int stepOrThrows(HouseWires x, int n) {
+        try {
+            return x.step(n);
+        } catch (IllegalArgumentException e) {
+            return THROWS;
+        }
+    }
+
+    void end() {
+        System.out.println(name + ": " + calls + " answers, " + wrong + " wrong");
+        if (wrong > 0) {
+            System.exit(1);
+        }
+    }
+}
