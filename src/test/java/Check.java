@@ -6,14 +6,12 @@ final class Check {
 
     private final String name;
     private int wrong;
-    private int calls;
 
     Check(String name) {
         this.name = name;
     }
 
     void due(String what, long got, long want) {
-        calls++;
         if (got != want) {
             wrong++;
             System.out.println(name + ": " + what + " answered " + got + ", due is " + want);
@@ -53,7 +51,7 @@ final class Check {
     }
 
     void end() {
-        System.out.println(name + ": " + calls + " answers, " + wrong + " wrong");
+        System.out.println(name + ": " + wrong + " wrong answers");
         if (wrong > 0) {
             System.exit(1);
         }
