@@ -695,7 +695,10 @@ public final class HouseWires {
                 return null;
             }
             Telegram slot = slots[size];
-            System.arraycopy(telegram.bytes, 0, slot.bytes, 0, MOST_BYTES);
+            // Written out, for a call more would go deeper than LANGUAGE.md lets calls go.
+            for (int i = 0; i < MOST_BYTES; i++) {
+                slot.bytes[i] = telegram.bytes[i];
+            }
             slot.length = telegram.length;
             slot.join = telegram.join;
             slot.came = tally.clock;

@@ -11,6 +11,8 @@ public final class NetworkTest {
         filters();
         fullFilter();
         addressesOverCouplers();
+        rowOfCouplers();
+        fullLine();
         hops();
         stationsInOrder();
         CHECK.end();
@@ -59,6 +61,7 @@ public final class NetworkTest {
         CHECK.due("3 same last", x.device(1, 255), 1);
         CHECK.due("3 address", x.connection(1, 8), 767);
         CHECK.due("3 twice", x.device(1, 255), -1);
+        CHECK.due("3 twice", x.device(0, 255), -1);
         CHECK.due("3 two", x.count(2), 2);
         for (int d = 2; d < 24; d++) {
             CHECK.due("3 device", x.device(d % 2, d), d);
@@ -199,9 +202,65 @@ public final class NetworkTest {
         CHECK.due("2 passed three times", x.count(8) - before, 3);
     }
 
+    private static void rowOfCouplers() {
+        HouseWires x = new HouseWires();
+        for (int l = 0; l < 6; l++) {
+            x.line(10 + l);
+        }
+        // Made from the middle, the left and the right.
+        x.coupler(2, 3);
+        x.coupler(1, 2);
+        x.coupler(3, 4);
+        x.coupler(1, 0);
+        x.coupler(4, 5);
+        for (int from = 0; from < 6; from++) {
+            for (int to = 0; to < 6; to++) {
+                int before = x.count(8);
+                Wire.send(x, from, Wire.toAddress(0x6363, 256 * (10 + to) + 9, 1, 2));
+                x.step(12);
+                CHECK.due("2 from " + from + " to " + to, x.count(8) - before,
+                        Math.abs(from - to));
+            }
+        }
+    }
+
+    private static void fullLine() {
+        HouseWires x = new HouseWires();
+        for (int l = 0; l < 6; l++) {
+            x.line(l);
+        }
+        for (int c = 0; c < 5; c++) {
+            CHECK.due("4 coupler", x.coupler(0, c + 1), c);
+            x.mode(c, 1);
+        }
+        for (int d = 0; d < 24; d++) {
+            CHECK.due("3 device", x.device(0, d + 1), d);
+            x.object(d, 4, 31, 1);
+            x.link(d, 0, 5);
+        }
+        Wire.send(x, 0, Wire.toGroup(Wire.NEW_LOW, 5, 0, 128, 9));
+        x.step(1);
+        CHECK.due("2 ACK by all", x.count(9), 1);
+        CHECK.due("2 heard by all couplers", x.count(8), 5);
+        for (int d = 0; d < 24; d++) {
+            CHECK.due("2 heard by device " + d, x.value(d, 0), 9);
+        }
+        x.busy(23, 1);
+        Wire.send(x, 0, Wire.toGroup(Wire.NEW_LOW, 5, 0, 128, 8));
+        x.step(1);
+        CHECK.due("2 BUSY by the last one", x.connection(23, 9), 0);
+        CHECK.due("2 BUSY by the last one", x.value(23, 0), 9);
+    }
+
     private static void hops() {
         HouseWires x = twoLines();
         x.mode(0, 1);
+        x.set(0, 0, 3);
+        x.step(2);
+        CHECK.sent("2 six of a device, then five", x,
+                Wire.telegram(Wire.NEW_NORMAL, 0x0201, 5, 128 + 80, 0, 128, 3));
+        CHECK.due("2 on the first line", x.count(10), 0);
+        x.step(3);
         int[] now = Wire.telegram(Wire.NEW_LOW, 0x6363, 5, 128 + 16, 0, 128, 3);
         Wire.send(x, 0, now);
         x.step(2);
@@ -219,7 +278,7 @@ public final class NetworkTest {
         x.step(2);
         CHECK.sent("2 repeated ones go on as new", x,
                 Wire.telegram(Wire.NEW_URGENT, 0x6363, 5, 128 + 32, 0, 128, 6));
-        CHECK.due("8 passed", x.count(8), 3);
+        CHECK.due("8 passed", x.count(8), 4);
     }
 
     private static void stationsInOrder() {

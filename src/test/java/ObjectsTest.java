@@ -69,6 +69,8 @@ public final class ObjectsTest {
         CHECK.due("8 without C", x.set(0, 0, 3), 1);
         CHECK.yes("8 all", x.flags(0, 0, 31));
         CHECK.due("8 all", x.set(0, 0, 4), 2);
+        CHECK.yes("8 none", x.flags(0, 0, 0));
+        CHECK.due("8 none", x.set(0, 0, 5), 2);
     }
 
     private static void links() {
@@ -152,8 +154,9 @@ public final class ObjectsTest {
     private static void sizesOnTheWire() {
         int[] masks = {1, 3, 15, 63, 255, 65535, 0xFFFFFF, -1};
         int[] behind = {0, 0, 0, 0, 1, 2, 3, 4};
-        int v = 0xDEADBEEF;
-        for (int size = 0; size < 8; size++) {
+        for (int i = 0; i < 16; i++) {
+            int size = i / 2;
+            int v = i % 2 == 0 ? 0xDEADBEEF : -1;
             HouseWires x = house();
             x.object(0, size, C | T, size % 4);
             x.link(0, 0, 9);
@@ -164,8 +167,8 @@ public final class ObjectsTest {
             int value = v & masks[size];
             int[] pdu = new int[2 + behind[size]];
             pdu[1] = 128 + (behind[size] == 0 ? value : 0);
-            for (int i = 0; i < behind[size]; i++) {
-                pdu[2 + i] = value >> 8 * (behind[size] - 1 - i) & 255;
+            for (int k = 0; k < behind[size]; k++) {
+                pdu[2 + k] = value >> 8 * (behind[size] - 1 - k) & 255;
             }
             CHECK.sent("3 size " + size, x,
                     Wire.telegram(176 + 4 * (size % 4), 257, 9, 128 + 96, pdu));

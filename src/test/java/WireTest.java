@@ -224,6 +224,22 @@ public final class WireTest {
         y.set(0, 0, 8);
         y.step(1);
         CHECK.due("28 the later one counts", y.value(1, 0), 10);
+        y.harm(0, 8, 16);
+        y.harm(1, 8, 64);
+        y.harm(0, 9, 16);
+        y.harm(1, 9, 64);
+        y.harm(2, 7, 1);
+        y.set(0, 0, 1);
+        y.set(0, 0, 2);
+        y.step(1);
+        CHECK.due("28 those of the first one", y.value(1, 0), 17);
+        CHECK.due("28 those of others are left", y.count(12), 3);
+        y.step(1);
+        CHECK.due("28 those of the second one", y.value(1, 0), 66);
+        y.set(0, 0, 3);
+        y.step(1);
+        CHECK.due("28 that of the third one", y.count(9), 2);
+        CHECK.due("28 none is left", y.count(12), 0);
     }
 
     private static void harmedButGood() {
@@ -301,6 +317,9 @@ public final class WireTest {
         Wire.send(x, 0, Wire.telegram(Wire.NEW_LOW - 32, 0x6364, 5, 128 + 80, 0, 128, 6));
         x.step(1);
         CHECK.due("2 another source: done", x.updated(0, 0), 6);
+        Wire.send(x, 0, Wire.telegram(Wire.NEW_LOW - 32, 0x6264, 5, 128 + 80, 0, 128, 6));
+        x.step(1);
+        CHECK.due("2 another source: done", x.updated(0, 0), 7);
         HouseWires y = house();
         Wire.send(y, 0, write(Wire.NEW_NORMAL - 32, 5));
         y.step(1);
@@ -444,6 +463,20 @@ public final class WireTest {
         CHECK.no("2 control: 176 wins over 184", testerWins(
                 Wire.telegram(Wire.NEW_URGENT, ONE, 5, 224, 0, 128, 2), 0, 5, 1));
         int[] shorter = {180, 1, 1, 0, 5, 226, 0, 128};
+        HouseWires x = house();
+        x.ask(0, 0);
+        int[] asks = Wire.telegram(Wire.NEW_NORMAL, ONE, 5, 224, 0, 0);
+        int[] longer = java.util.Arrays.copyOf(asks, 10);
+        longer[9] = 254;
+        Wire.send(x, 0, longer);
+        x.step(1);
+        CHECK.due("2 a 0 wins over a byte that isn't there", x.sent(-1), 10);
+        HouseWires y = house();
+        y.ask(0, 0);
+        longer[9] = 255;
+        Wire.send(y, 0, longer);
+        y.step(1);
+        CHECK.due("2 all 1s are like a byte that isn't there", y.sent(-1), 9);
         CHECK.no("2 a byte that isn't there has all 1s", testerWins(shorter, 1, 5, 254));
         CHECK.no("2 all alike, byte 8 of all 1s, but CHECK has a 0", testerWins(shorter, 1, 5, 255));
     }
