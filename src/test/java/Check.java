@@ -4,6 +4,8 @@ import java.util.NoSuchElementException;
 final class Check {
     static final int THROWS = -1000;
 
+    private static final int MOST_PRINTED = 100;
+
     private final String name;
     private int wrong;
 
@@ -14,7 +16,9 @@ final class Check {
     void due(String what, long got, long want) {
         if (got != want) {
             wrong++;
-            System.out.println(name + ": " + what + " answered " + got + ", due is " + want);
+            if (wrong <= MOST_PRINTED) {
+                System.out.println(name + ": " + what + " answered " + got + ", due is " + want);
+            }
         }
     }
 
