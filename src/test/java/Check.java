@@ -7,17 +7,24 @@ final class Check {
     private static final int MOST_PRINTED = 100;
 
     private final String name;
+    private String sentence = "";
     private int wrong;
 
     Check(String name) {
         this.name = name;
     }
 
+    /** The document's sentence by which the next answers are due; it is printed with wrong ones. */
+    void by(String told) {
+        sentence = "'" + told + "' ";
+    }
+
     void due(String what, long got, long want) {
         if (got != want) {
             wrong++;
             if (wrong <= MOST_PRINTED) {
-                System.out.println(name + ": " + what + " answered " + got + ", due is " + want);
+                System.out.println(name + ": " + sentence + what + " answered " + got
+                        + ", due is " + want);
             }
         }
     }
