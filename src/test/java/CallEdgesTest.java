@@ -41,6 +41,7 @@ public final class CallEdgesTest {
         inPlaceOfAnotherHarm();
         sixtyFourHarms();
         sixtyFourOfThoseNotSent();
+        harmsOfSeveral();
         harmWithoutThatByte();
         farthestHarm();
         steps();
@@ -636,6 +637,25 @@ public final class CallEdgesTest {
         x.step(3);
         CHECK.due("three more were SENT", x.count(12), 61);
         CHECK.due("four were harmed", x.count(6), 1);
+    }
+
+    private static void harmsOfSeveral() {
+        CHECK.by("Byte place (0 to 22) of the n-th TELEGRAM that will be SENT");
+        HouseWires x = pair();
+        int[] turns = {1, 2, 4};
+        int[][] harms = {{0, 8}, {1, 8}, {0, 9}, {1, 9}, {2, 8}, {2, 9}};
+        for (int[] harm : harms) {
+            CHECK.yes("harm", x.harm(harm[0], harm[1], turns[harm[0]]));
+        }
+        for (int n = 0; n < 3; n++) {
+            x.set(0, 0, 64);
+            x.step(1);
+            CHECK.due("the one of number " + n, x.value(1, 0), 64 + turns[n]);
+            CHECK.due("those that are left", x.count(12), 4 - 2 * n);
+        }
+        x.set(0, 0, 64);
+        x.step(1);
+        CHECK.due("none more", x.value(1, 0), 64);
     }
 
     private static void harmWithoutThatByte() {

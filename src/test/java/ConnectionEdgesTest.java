@@ -49,6 +49,8 @@ public final class ConnectionEdgesTest {
         idleOfSixtyWhileItWaits();
         againAndIdleAtOnce();
         idleFromZero();
+        triesFromZero();
+        dataOfOthers();
         againWithEight();
         idleWithEight();
         answerWithSeven();
@@ -58,6 +60,7 @@ public final class ConnectionEdgesTest {
         joinsTillDoneTheFourthTime();
         opensOfAnEarlierConnection();
         closedWhileJoining();
+        telegramsBesideAnOpens();
         CHECK.end();
     }
 
@@ -773,6 +776,46 @@ public final class ConnectionEdgesTest {
         how("other PDUS", z, 0, -1, 0, 0, 0, 0, 0, 1);
     }
 
+    private static void triesFromZero() {
+        CHECK.by("it WAITS, TRIES 0, PAUSE 0, IDLE 0");
+        HouseWires x = opened();
+        x.poke(0, 0, 1, 7);
+        x.step(4);
+        hear(x, 195);
+        x.step(4);
+        hear(x, 194);
+        how("taken", x, 1, ELSE, 1, 0, 0, 0, 1, 0);
+        x.poke(0, 0, 1, 7);
+        how("the next DATA", x, 2, ELSE, 1, 0, 0, 0, 0, 1);
+        x.step(4);
+        for (int tries = 1; tries <= 3; tries++) {
+            hear(x, 195 + 4);
+            how("AGAIN", x, 2, ELSE, 1, 0, tries);
+            x.step(4);
+        }
+    }
+
+    private static void dataOfOthers() {
+        CHECK.by("CLOSED, or x is not the PARTNER, or it JOINS: a CLOSES to x");
+        HouseWires x = house();
+        hear(x, order(0, 129, 0, 1));
+        how("CLOSED", x, 0, -1, 0, 0, 0, 0, 0, 1);
+        CHECK.due("not done", x.memory(0, 0), 0);
+        says("CLOSES", x, 129);
+        HouseWires y = opened();
+        hearFrom(y, 0x0808, order(0, 129, 0, 1));
+        how("not the PARTNER", y, 1, ELSE, 0, 0, 0, 0, 2, 1);
+        CHECK.due("not done", y.memory(0, 0), 0);
+        y.step(1);
+        CHECK.sent("CLOSES", y, Wire.toAddress(ONE, 0x0808, 129));
+        HouseWires z = house();
+        z.connect(0, ELSE);
+        Wire.send(z, 0, Wire.telegram(Wire.NEW_SYSTEM - 32, ELSE, ONE, 96, 66, 129, 0, 0, 9));
+        z.step(1);
+        how("it JOINS", z, 3, ELSE, 0, 0, 0, 0, 0, 2);
+        CHECK.due("not done", z.memory(0, 0), 0);
+    }
+
     private static void againWithEight() {
         CHECK.by("that TELEGRAM comes into the OUT row again");
         HouseWires x = opened();
@@ -916,5 +959,30 @@ public final class ConnectionEdgesTest {
         how("DONE, but it JOINS no more", y, 0, -1, 0, 0, 0, 0, 0, 0);
         hear(y, 129);
         how("CLOSED already", y, 0, -1, 0, 0, 0, 0, 0, 0);
+    }
+
+    private static void telegramsBesideAnOpens() {
+        CHECK.by("A JOINING DEVICE's OPENS that is DONE: it is OPEN");
+        HouseWires x = house();
+        x.object(0, 0, 31, 1);
+        x.object(1, 0, 31, 1);
+        x.link(0, 0, 5);
+        x.link(1, 0, 5);
+        x.set(0, 0, 1);
+        x.connect(0, TWO);
+        x.set(0, 0, 0);
+        x.step(1);
+        CHECK.due("one ahead of it is DONE", x.count(5), 1);
+        how("JOINS still", x, 3, TWO);
+        x.step(1);
+        how("OPEN", x, 1, TWO);
+        HouseWires y = house();
+        fillRow(y, 1);
+        y.connect(0, TWO);
+        y.step(4);
+        CHECK.due("one ahead of it is LOST", y.count(6), 1);
+        how("JOINS still", y, 3, TWO);
+        y.step(1);
+        how("OPEN", y, 1, TWO);
     }
 }

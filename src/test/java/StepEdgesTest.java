@@ -42,11 +42,15 @@ public final class StepEdgesTest {
         repeatedAlready();
         nextOneIsNew();
         hopsOfCouplers();
+        hopsOfTheLongest();
         hopsOfAddresses();
         filterAndZero();
         wholePartOfGoal();
         withoutThisCoupler();
+        rowsOfCouplers();
+        allOnOneLine();
         passedAsNew();
+        notPassedAgain();
         dropped();
         CHECK.end();
     }
@@ -676,6 +680,22 @@ public final class StepEdgesTest {
         }
     }
 
+    private static void hopsOfTheLongest() {
+        CHECK.by("HOPS one less (but 7 stays), CHECK anew");
+        for (int length : new int[] {1, 15, 16}) {
+            for (int hops = 1; hops < 8; hops++) {
+                HouseWires x = twoLines();
+                int[] pdu = new int[length];
+                pdu[length - 1] = 201;
+                answer(x, 0, Wire.telegram(Wire.NEW_LOW, STRANGER, 5, 128 + 16 * hops, pdu));
+                x.step(1);
+                int then = hops == 7 ? 7 : hops - 1;
+                CHECK.sent(length + " bytes, HOPS " + hops, x,
+                        Wire.telegram(Wire.NEW_LOW, STRANGER, 5, 128 + 16 * then, pdu));
+            }
+        }
+    }
+
     private static void hopsOfAddresses() {
         CHECK.by("a COUPLER, if it PASSES and HOPS are not 0");
         for (int hops : new int[] {0, 1, 7}) {
@@ -746,6 +766,81 @@ public final class StepEdgesTest {
         int before = x.count(8);
         answer(x, 1, Wire.toAddress(STRANGER, 0x0201, 128));
         CHECK.due("by the one that leads there alone", x.count(8) - before, 1);
+    }
+
+    private static void rowsOfCouplers() {
+        CHECK.by("or joined with it by COUPLERS without this one");
+        // 0 - 1 - 2 - 3 - 4 - 5, made in each of these orders.
+        int[][] orders = {{0, 1, 2, 3, 4}, {4, 3, 2, 1, 0}, {2, 0, 4, 1, 3}, {1, 3, 0, 4, 2},
+            {0, 4, 1, 3, 2}};
+        for (int[] order : orders) {
+            for (int from = 0; from < 6; from++) {
+                HouseWires x = new HouseWires();
+                for (int l = 0; l < 6; l++) {
+                    x.line(l);
+                }
+                for (int c : order) {
+                    x.coupler(c % 2 == 0 ? c : c + 1, c % 2 == 0 ? c + 1 : c);
+                }
+                for (int to = 0; to < 6; to++) {
+                    int before = x.count(8);
+                    Wire.send(x, from, Wire.toAddress(STRANGER, 256 * to + 1, 128));
+                    x.step(12);
+                    CHECK.due("from " + from + " to " + to, x.count(8) - before,
+                            Math.abs(from - to));
+                }
+            }
+        }
+    }
+
+    private static void allOnOneLine() {
+        CHECK.by("On a LINE are STATIONS: its DEVICES, its COUPLERS, its TESTER.");
+        HouseWires x = new HouseWires();
+        for (int l = 0; l < 6; l++) {
+            x.line(l);
+        }
+        for (int c = 0; c < 5; c++) {
+            x.coupler(5 - c, 0);
+            x.mode(c, 1);
+        }
+        for (int d = 0; d < 24; d++) {
+            x.device(0, 1 + d);
+            x.object(d, 4, 31, 1);
+            x.link(d, 0, 5);
+        }
+        CHECK.due("ACK", answer(x, 0, write(Wire.NEW_LOW, 9)), 1);
+        CHECK.due("all couplers pass it", x.count(8), 5);
+        for (int d = 0; d < 24; d++) {
+            CHECK.due("device " + d, x.value(d, 0), 9);
+        }
+        CHECK.due("five wait", x.count(11), 5);
+        x.busy(23, 1);
+        Wire.send(x, 0, write(Wire.NEW_LOW, 9));
+        x.step(1);
+        CHECK.due("BUSY by the last device", x.connection(23, 9), 0);
+        CHECK.due("BUSY by the last device", x.updated(23, 0), 1);
+        CHECK.due("the others did it", x.updated(22, 0), 2);
+    }
+
+    private static void notPassedAgain() {
+        CHECK.by("REPEATED and like the latest one that this STATION did from this LINE");
+        HouseWires x = twoLines();
+        CHECK.due("passed", answer(x, 1, write(Wire.NEW_LOW, 1)), 1);
+        x.step(4);
+        CHECK.due("not again, but ACK", answer(x, 1, write(Wire.NEW_LOW - 32, 1)), 1);
+        CHECK.due("not again", x.count(8), 1);
+        x.step(4);
+        CHECK.due("from the other line", answer(x, 0, write(Wire.NEW_LOW - 32, 1)), 1);
+        CHECK.due("from the other line", x.count(8), 2);
+        x.step(4);
+        answer(x, 1, write(Wire.NEW_LOW - 32, 1));
+        CHECK.due("that line's latest is the same still", x.count(8), 2);
+        answer(x, 1, write(Wire.NEW_LOW, 1));
+        CHECK.due("not REPEATED", x.count(8), 3);
+        answer(x, 1, write(Wire.NEW_LOW - 32, 2));
+        CHECK.due("another one", x.count(8), 4);
+        answer(x, 1, write(Wire.NEW_LOW - 32, 1));
+        CHECK.due("not the latest any more", x.count(8), 5);
     }
 
     private static void passedAsNew() {
