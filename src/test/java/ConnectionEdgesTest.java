@@ -38,6 +38,8 @@ public final class ConnectionEdgesTest {
         orderByTheFirstByte();
         opensAndCloses();
         takesAndRefusesOfEachNumber();
+        takesOfOthers();
+        takesWhileItJoins();
         dataOfEachFirstByte();
         dataOfOneByte();
         numbersGoRound();
@@ -595,6 +597,42 @@ public final class ConnectionEdgesTest {
             y.step(4);
             hear(y, 195 + 4 * s);
             how("REFUSES " + s, y, s == 0 ? 2 : 0, s == 0 ? ELSE : -1, 0, 0, s == 0 ? 1 : 0);
+        }
+    }
+
+    private static void takesOfOthers() {
+        CHECK.by("TAKES s, from the PARTNER (of others: nothing)");
+        for (int s = 0; s < 16; s++) {
+            HouseWires x = opened();
+            x.poke(0, 0, 1, 1);
+            x.step(4);
+            hearFrom(x, 0x0808, 194 + 4 * s);
+            hearFrom(x, 0x0908, 195 + 4 * s);
+            hearFrom(x, 0x0809, 195 + 4 * s);
+            how("WAITS, s " + s, x, 2, ELSE, 0, 0, 0, 7, 7, 0);
+            HouseWires y = opened();
+            hearFrom(y, 0x0808, 194 + 4 * s);
+            hearFrom(y, 0x0808, 195 + 4 * s);
+            how("OPEN, s " + s, y, 1, ELSE, 0, 0, 0, 0, 3, 0);
+        }
+    }
+
+    private static void takesWhileItJoins() {
+        CHECK.by("(CLOSED or JOINS: TAKES and REFUSES do nothing.)");
+        for (int s = 0; s < 16; s++) {
+            HouseWires x = house();
+            x.connect(0, ELSE);
+            for (int first = 194; first <= 195; first++) {
+                int[] bytes = Wire.telegram(144, ELSE, ONE, 96, first + 4 * s);
+                Wire.send(x, 0, bytes);
+                x.step(1);
+                CHECK.due("ACK", x.count(9), 1);
+            }
+            how("JOINS, s " + s, x, 3, ELSE, 0, 0, 0, 0, 0, 1);
+            HouseWires y = house();
+            hear(y, 194 + 4 * s);
+            hear(y, 195 + 4 * s);
+            how("CLOSED, s " + s, y, 0, -1, 0, 0, 0, 0, 0, 0);
         }
     }
 
